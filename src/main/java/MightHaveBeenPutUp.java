@@ -20,6 +20,8 @@ public final class MightHaveBeenPutUp {
     private static final int MOST_SEEDS = 20, CHANCE_YEARS = 10;
     private static final int SHEETS = 4, MOST_ITEMS = 40, SORTS = 3, MISSING = -1;
     private static final int IS_HOUSE = 9;
+    private static final int OTHERWISE = 0, TOLD_KINDS = 1, TOLD_NUMBERS = 2, TOLD_FIRMS = 3, TOLD_LEAST_FIRM = 4;
+    private static final int TOLD_TEXTS = 5, TOLD_REGRETS = 6;
 
     private static final int KINDS = 6;
     private static final int REGRET = 0, BOY = 1, CLERK = 2, STAIR = 3, VIEW = 4, SAWDUST = 5;
@@ -289,7 +291,7 @@ public final class MightHaveBeenPutUp {
     // ---- years that were told
 
     public int tells(int sheet, int one, int what) {
-        if (!isSheet(sheet) || !isOne(one) || !within(what, 6)) {
+        if (!isSheet(sheet) || !isOne(one) || !within(what, TOLD_REGRETS)) {
             return BAD;
         }
         Sheet told = sheets[sheet];
@@ -299,23 +301,11 @@ public final class MightHaveBeenPutUp {
         if (told.size > MOST_TOLD) {
             return BAD;
         }
-        switch (what) {
-            case 0:
-                thought.become(now);
-                return firstOtherwise(told, one);
-            case 1:
-                return kindsTold(told, one);
-            case 2:
-                return numbersTold(told, one);
-            case 3:
-                return firmsTold(told, one, false);
-            case 4:
-                return firmsTold(told, one, true);
-            case 5:
-                return textsTold(told, one);
-            default:
-                return regretsTold(told);
+        if (what == OTHERWISE) {
+            thought.become(now);
+            return firstOtherwise(told, one);
         }
+        return supposedTold(told, one, what);
     }
 
     public int film(int sheet, int one, int n) {
@@ -612,66 +602,62 @@ public final class MightHaveBeenPutUp {
         return NONE;
     }
 
-    private int kindsTold(Sheet told, int one) {
+    /** Of what can be supposed: by which of it all would be as told, in bits; of firms how many, the least. */
+    private int supposedTold(Sheet told, int one, int what) {
         int bits = 0;
-        for (int kind = 0; kind < KINDS; kind++) {
-            thought.become(now);
-            thought.kinds[one] = kind;
-            if (firstOtherwise(told, one) == NONE) {
-                bits |= 1 << kind;
-            }
-        }
-        return bits;
-    }
-
-    private int numbersTold(Sheet told, int one) {
-        int bits = 0;
-        for (int number = 0; number <= MOST_NUMBER; number++) {
-            thought.become(now);
-            thought.numbers[one] = number;
-            if (firstOtherwise(told, one) == NONE) {
-                bits |= 1 << number;
-            }
-        }
-        return bits;
-    }
-
-    private int firmsTold(Sheet told, int one, boolean least) {
         int many = 0;
-        for (int firm = 0; firm <= MOST_FIRM; firm++) {
-            thought.become(now);
-            thought.firms[one] = firm;
-            if (firstOtherwise(told, one) == NONE) {
-                if (least) {
-                    return firm;
+        int end = suppositions(what);
+        for (int v = 0; v < end; v++) {
+            suppose(what, one, v);
+            if (firstOtherwise(told, what == TOLD_REGRETS ? v : one) == NONE) {
+                if (what == TOLD_LEAST_FIRM) {
+                    return v;
                 }
                 many++;
+                bits |= 1 << v;
             }
         }
-        return least ? NONE : many;
+        if (what == TOLD_LEAST_FIRM) {
+            return NONE;
+        }
+        return what == TOLD_FIRMS ? many : bits;
     }
 
-    private int textsTold(Sheet told, int one) {
-        int bits = 0;
-        for (int text = 0; text < textCount; text++) {
-            thought.become(now);
-            thought.rule = text;
-            if (firstOtherwise(told, one) == NONE) {
-                bits |= 1 << text;
-            }
+    private int suppositions(int what) {
+        switch (what) {
+            case TOLD_KINDS:
+                return KINDS;
+            case TOLD_NUMBERS:
+                return MOST_NUMBER + 1;
+            case TOLD_TEXTS:
+                return textCount;
+            case TOLD_REGRETS:
+                return now.regrets;
+            default:
+                return MOST_FIRM + 1;
         }
-        return bits;
     }
 
-    private int regretsTold(Sheet told) {
-        int bits = 0;
-        for (int one = 0; one < now.regrets; one++) {
-            thought.become(now);
-            if (firstOtherwise(told, one) == NONE) {
-                bits |= 1 << one;
-            }
+    /** As all is now, but for v; of regrets, each is asked as it is. */
+    private void suppose(int what, int one, int v) {
+        thought.become(now);
+        switch (what) {
+            case TOLD_KINDS:
+                thought.kinds[one] = v;
+                break;
+            case TOLD_NUMBERS:
+                thought.numbers[one] = v;
+                break;
+            case TOLD_FIRMS:
+            case TOLD_LEAST_FIRM:
+                thought.firms[one] = v;
+                break;
+            case TOLD_TEXTS:
+                thought.rule = v;
+                break;
+            default:
+                break;
         }
-        return bits;
     }
 
     /** Sets of cells as longs, and the parts that can go onto them. */
@@ -853,12 +839,6 @@ public final class MightHaveBeenPutUp {
             dropLoose();
         }
 
-        private void dropGreatest(int one) {
-            if (up[one] != 0L) {
-                dropCell(highestCell(one));
-            }
-        }
-
         /** Asked only where something is put up for one. */
         private int highestCell(int one) {
             return CELLS - 1 - Long.numberOfLeadingZeros(up[one]);
@@ -875,15 +855,11 @@ public final class MightHaveBeenPutUp {
                 int more = costs(one);
                 firms[one] = Math.max(0, firms[one] - less);
                 paid = Math.min(MOST_PAID, paid + more);
-                for (int turn = 0; turn < CELLS && hasTooMuch(one); turn++) {
-                    dropGreatest(one);
+                for (int turn = 0; turn < CELLS && Long.bitCount(up[one]) > holds(one); turn++) {
+                    dropCell(highestCell(one));
                 }
             }
             year++;
-        }
-
-        private boolean hasTooMuch(int one) {
-            return up[one] != 0L && Long.bitCount(up[one]) > holds(one);
         }
 
         /** Years never put a cell up, so what has come down to the floor needs no more of them. */
