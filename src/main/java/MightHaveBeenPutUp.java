@@ -855,7 +855,10 @@ public final class MightHaveBeenPutUp {
                 int more = costs(one);
                 firms[one] = Math.max(0, firms[one] - less);
                 paid = Math.min(MOST_PAID, paid + more);
-                for (int turn = 0; turn < CELLS && Long.bitCount(up[one]) > holds(one); turn++) {
+                for (int turn = 0; turn < CELLS && up[one] != 0L; turn++) {
+                    if (Long.bitCount(up[one]) <= holds(one)) {
+                        break;
+                    }
                     dropCell(highestCell(one));
                 }
             }

@@ -165,6 +165,9 @@ public final class PromiseTest {
         due("4 parts", x.told(1, 7), 2);
         due("4 parts of none", x.told(0, 7), 0);
         due("4 whose", x.told(11, 8), 1);
+        x.raise(0, 0, 8);
+        due("4 the first one's", x.told(8, 8), 0);
+        x.fell(8);
         due("4 house", x.told(7, 8), 9);
         due("4 nobody's", x.told(12, 8), NONE);
         due("4 cell 64", x.told(64, 8), BAD);
@@ -284,6 +287,8 @@ public final class PromiseTest {
         readDue("holds firm;fades 2;costs parts", -130);
         readDue("holds firm;fades 2;costs parts; ", 1);
         readDue("holds firm;fades 2;costs parts; ;", -132);
+        readDue("holds firm;fades 2;costs parts; 4", -132);
+        readDue("holds firm;fades 2;costs parts;year", -131);
         readDue("holds firm;fades 2;costs parts;holds", -131);
         readDue("holds firm;costs 2;fades parts;", -111);
         readDue("fades 1;", -100);
@@ -302,6 +307,9 @@ public final class PromiseTest {
         holdsDue("firms", 0);
         holdsDue("numbers", 0);
         holdsDue("fir", 0);
+        holdsDue("girm", 0);
+        holdsDue("firmz", 0);
+        holdsDue("afirm", 0);
         holdsDue("or", 0);
         holdsDue("holds", 0);
         holdsDue("firm2", 4);
@@ -425,6 +433,8 @@ public final class PromiseTest {
         costsDue("parts", 4);
         costsDue("high", 3);
         costsDue("paid", 0);
+        costsDue("firm+number*2-parts", 52);
+        costsDue("year<firm and not high=number", 1);
         MightHaveBeenPutUp x = fresh();
         x.regret(0, 0, 0);
         Check.text(x, "holds high+7;fades 0;costs 151;");
@@ -764,6 +774,29 @@ public final class PromiseTest {
         x.raise(1, 0, 38);
         due("18 for whomever", x.key(0), 14);
         due("18 three others", x.key(1), 3);
+        MightHaveBeenPutUp y = fromTheTop();
+        due("18 hanging", y.key(0), 0);
+        due("18 no others", y.key(1), 0);
+        y.raise(0, 1, 1);
+        due("18 hung from the first", y.key(0), 0);
+        due("18 two others", y.key(1), 2);
+    }
+
+    /** Only CELL 8 is HOUSE, and CELL 0 is put up. */
+    private static MightHaveBeenPutUp fromTheTop() {
+        MightHaveBeenPutUp x = fresh();
+        x.set(3, 8, 1);
+        for (int cell = 0; cell < 8; cell++) {
+            x.set(3, cell, 0);
+        }
+        due("17 cell 0", x.reach(0), 1);
+        due("17 cell 3", x.reach(3), 2);
+        x.regret(5, 0, 0);
+        due("19 a window aside", x.add(0, 1, 0), 501);
+        x.regret(0, 0, 3);
+        due("19 a nail at 0", x.add(1, 1, 0), 0);
+        due("9 at 0", x.raise(0, 0, 0), 1);
+        return x;
     }
 
     // ---- promise 19
@@ -792,6 +825,7 @@ public final class PromiseTest {
         due("19 beside", x.add(1, 1, 0), 210);
         due("19 five", x.add(1, 1, 1), 5);
         due("19 in thought", x.count(1), 2);
+        due("19 besides what is put up", x.add(0, 9, 1), 6);
     }
 
     // ---- promise 20
@@ -974,6 +1008,17 @@ public final class PromiseTest {
                 due("24 lowest", gcd(above, below), 1);
             }
         }
+        MightHaveBeenPutUp y = fresh();
+        y.regret(0, 0, 21);
+        y.raise(0, 0, 8);
+        int calm = 0;
+        while (calm < 1000 && y.drawn(calm, 10) != 1) {
+            calm++;
+        }
+        due("24 ten years", y.chance(calm, 1, 1, 0), 1);
+        due("23 not eleven", y.drawn(calm, 11), 0);
+        y.set(2, 0, 20);
+        due("24 not nine", y.chance(calm, 1, 1, 0), 0);
         due("24 surely", x.chance(1, 20, 0, 0), 1);
         due("24 surely", x.chance(1, 20, 0, 1), 1);
         due("24 never", x.chance(1, 20, 64, 0), 0);
