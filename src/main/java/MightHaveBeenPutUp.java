@@ -53,9 +53,9 @@ public final class MightHaveBeenPutUp {
             case 0:
                 return changeYear(v);
             case 1:
-                return changeNumber(of, v);
+                return changeOfOne(now.numbers, of, v, MOST_NUMBER);
             case 2:
-                return changeFirm(of, v);
+                return changeOfOne(now.firms, of, v, MOST_FIRM);
             case 3:
                 return changeHouse(of, v);
             default:
@@ -510,21 +510,12 @@ public final class MightHaveBeenPutUp {
         return was;
     }
 
-    private int changeNumber(int one, int v) {
-        if (!isOne(one) || !within(v, MOST_NUMBER)) {
+    private int changeOfOne(int[] row, int one, int v, int most) {
+        if (!isOne(one) || !within(v, most)) {
             return BAD;
         }
-        int was = now.numbers[one];
-        now.numbers[one] = v;
-        return was;
-    }
-
-    private int changeFirm(int one, int v) {
-        if (!isOne(one) || !within(v, MOST_FIRM)) {
-            return BAD;
-        }
-        int was = now.firms[one];
-        now.firms[one] = v;
+        int was = row[one];
+        row[one] = v;
         return was;
     }
 
