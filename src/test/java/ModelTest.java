@@ -2,7 +2,9 @@ import java.util.Random;
 
 /** Long runs of drawn calls, each asked of the class and of the model; fixed seeds, so always the same. */
 public final class ModelTest {
-    private static final int RUNS = 150, CALLS = 512, SORTS_OF_CALLS = 31;
+    private static final int RUNS = 150, SORTS_OF_CALLS = 31;
+    /** An object is made for so many calls; a turn of a run asks two of them at most, but where it reads a text. */
+    private static final int CALLS = 512, MOST_AT_ONCE = 2;
     private static final int[] EDGES = {-1, -2, -3, 64, 63, 65, 5, 6, 40, 41, 20, 21, 100, 99, 1000, 999, 256,
         Integer.MAX_VALUE, Integer.MIN_VALUE, Integer.MAX_VALUE - 1};
     private static final String[] NAMES = {"firm", "number", "year", "parts", "high", "paid"};
@@ -29,7 +31,7 @@ public final class ModelTest {
 
     private void start() {
         boolean slow = random.nextInt(3) == 0;
-        while (calls < CALLS && !Check.isWrong()) {
+        while (calls + MOST_AT_ONCE <= CALLS && !Check.isWrong()) {
             int draw = random.nextInt(SORTS_OF_CALLS + 12);
             if (draw >= SORTS_OF_CALLS) {
                 grow();
@@ -60,7 +62,7 @@ public final class ModelTest {
 
     private void grow() {
         int part = random.nextInt(6);
-        long room = x.room(part);
+        long room = model.room(part);
         if (Math.floorMod(random.nextInt(), 5) == 0 || model.now.regrets.isEmpty()) {
             regret(random.nextInt(6), random.nextInt(10), random.nextInt(30));
         } else if (room != 0) {
@@ -129,6 +131,9 @@ public final class ModelTest {
     }
 
     private void read(String text) {
+        if (calls + text.length() + MOST_AT_ONCE > CALLS) {
+            return;
+        }
         for (int i = 0; i < text.length(); i++) {
             due("feed " + (int) text.charAt(i), x.feed(text.charAt(i)), model.feed(text.charAt(i)));
         }

@@ -994,25 +994,31 @@ public final class PromiseTest {
         due("23 with years", y.drawn(seedOf(32), 2) <= 4 ? 1 : 0, 1);
     }
 
-    private static void chance() {
+    /** A new object for each m, as one is made for 512 calls. */
+    private static void chanceByDrawn(int m) {
         MightHaveBeenPutUp x = sawdust();
-        for (int m = 1; m <= 20; m++) {
-            for (int k = 0; k < 5; k++) {
-                int those = 0;
-                for (int i = 0; i < m; i++) {
-                    those += x.drawn(MAX - 3 + i, 10) >= k ? 1 : 0;
-                }
-                long above = x.chance(MAX - 3, m, k, 0);
-                long below = x.chance(MAX - 3, m, k, 1);
-                due("24 as large", above * m, those * below);
-                due("24 lowest", gcd(above, below), 1);
+        for (int k = 0; k < 5; k++) {
+            int those = 0;
+            for (int i = 0; i < m; i++) {
+                those += x.drawn(MAX - 3 + i, 10) >= k ? 1 : 0;
             }
+            long above = x.chance(MAX - 3, m, k, 0);
+            long below = x.chance(MAX - 3, m, k, 1);
+            due("24 as large", above * m, those * below);
+            due("24 lowest", gcd(above, below), 1);
         }
+    }
+
+    private static void chance() {
+        for (int m = 1; m <= 20; m++) {
+            chanceByDrawn(m);
+        }
+        MightHaveBeenPutUp x = sawdust();
         MightHaveBeenPutUp y = fresh();
         y.regret(0, 0, 21);
         y.raise(0, 0, 8);
         int calm = 0;
-        while (calm < 1000 && y.drawn(calm, 10) != 1) {
+        while (calm < 500 && y.drawn(calm, 10) != 1) {
             calm++;
         }
         due("24 ten years", y.chance(calm, 1, 1, 0), 1);

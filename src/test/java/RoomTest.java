@@ -2,7 +2,7 @@ import java.lang.management.ManagementFactory;
 
 /** All calls of a run live in one room, so the dear ones may make next to nothing. */
 public final class RoomTest {
-    private static final int CALLS = 512;
+    private static final int CALLS = 432;
     private static final long MOST_BYTES_OF_NEW = 16_000, MOST_BYTES_OF_CALLS = 64_000;
 
     public static void main(String[] args) {
